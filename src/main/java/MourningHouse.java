@@ -705,6 +705,7 @@ public final class MourningHouse {
         // A line without a fault has fewer tokens, so that no further one is ever looked at.
         private static final int MOST_TOKENS = 64;
         private static final int TOO_LARGE = 100000;
+        private static final int LINE_END = 10;
         private static final int STRANGE_BYTE = 1;
         private static final int MISPLACED = 2;
         private static final int WRONG_NUMBER = 3;
@@ -744,23 +745,16 @@ public final class MourningHouse {
             law.clear();
             line = 0;
             int start = 0;
-            while (start < size) {
-                int stop = endOfLine(start);
-                line++;
-                if (!readLine(law, start, stop)) {
-                    return false;
+            for (int i = 0; i <= size; i++) {
+                if (i == size || bytes[i] == LINE_END) {
+                    line++;
+                    if (!readLine(law, start, i)) {
+                        return false;
+                    }
+                    start = i + 1;
                 }
-                start = stop + 1;
             }
             return true;
-        }
-
-        private int endOfLine(int start) {
-            int i = start;
-            while (i < size && bytes[i] != 10) {
-                i++;
-            }
-            return i;
         }
 
         private boolean readLine(Law law, int start, int stop) {
@@ -801,18 +795,17 @@ public final class MourningHouse {
         /** Whether every byte of the line begins or goes on with a token, up to its remark. */
         private boolean findTokens(int start, int stop) {
             tokens = 0;
-            int from = start;
-            while (from < stop && bytes[from] != '#') {
-                int to = from + 1;
-                if (bytes[from] != ' ') {
-                    to = endOfToken(from, stop);
-                    int code = kindOf(from, to);
-                    if (code == Words.STRANGE) {
-                        return false;
-                    }
-                    keepToken(code, from, to);
+            int to = start;
+            for (int from = start; from < stop && bytes[from] != '#'; from = Math.max(to, from + 1)) {
+                if (bytes[from] == ' ') {
+                    continue;
                 }
-                from = to;
+                to = endOfToken(from, stop);
+                int code = kindOf(from, to);
+                if (code == Words.STRANGE) {
+                    return false;
+                }
+                keepToken(code, from, to);
             }
             return true;
         }
@@ -923,7 +916,7 @@ public final class MourningHouse {
                     return fail(TOO_MANY);
                 }
                 at++;
-            } while (codeAt(at) == Words.OF);
+            } while (at < tokens && codeAt(at) == Words.OF);
             return codeAt(at) == Words.COLON || fail(MISPLACED);
         }
 
@@ -933,7 +926,7 @@ public final class MourningHouse {
                 if (!readPart(law)) {
                     return false;
                 }
-            } while (codeAt(at) == Words.COMMA);
+            } while (at < tokens && codeAt(at) == Words.COMMA);
             return true;
         }
 
@@ -961,7 +954,7 @@ public final class MourningHouse {
         }
 
         private boolean readOptions(Law law) {
-            while (codeAt(at) == Words.SEMICOLON) {
+            while (at < tokens && codeAt(at) == Words.SEMICOLON) {
                 at++;
                 int option = codeAt(at);
                 if (!Words.isOption(option)) {
@@ -1653,6 +1646,8 @@ public final class MourningHouse {
         private static final int MOST = 40;
         private static final int EDGE_DAYS = 30;
         private static final int BEHIND_ALL = Calendar.LAST + 2;
+        // Far above all beginnings, weddings and ends of parts.
+        private static final int MOST_CHANGES = 100000;
 
         private final Family family;
         private final Decrees decrees;
@@ -1723,7 +1718,7 @@ public final class MourningHouse {
         // ---- The days ----
 
         private void moveTo(int day) {
-            while (today < day && changes <= day) {
+            for (int i = 0; i < MOST_CHANGES && today < day && changes <= day; i++) {
                 passDays(changes - today);
             }
         }
