@@ -258,7 +258,22 @@ public final class MourningTest {
         behind.wed(1, 3, 4);
         behind.death(0, 3);
         Check.due("not yet begun", behind.last(1, 0), 13);
+        MourningHouse lilac = fatherAnd(3, "for father: grey 9 days\nfor brother: lilac 9 days\nwedding ends crape\nwedding ends lilac", 2);
+        lilac.person(MAN, -1, -1, -9000); // 4
+        lilac.death(0, 0);
+        lilac.death(2, 0);
+        lilac.go(3);
+        lilac.wed(4, 1, 2);
+        Check.due("lilac is over", lilac.last(1, 2), 1);
+        Check.due("grey is not", lilac.last(1, 0), 8);
         // What waited goes on from the wedding's day on.
+        MourningHouse freed = fatherAnd(2, "for father: grey 9 days\nfor brother: lilac 4 days; wait; firm\nwedding ends grey", 2);
+        freed.person(MAN, -1, -1, -9000); // 3
+        freed.death(0, 0);
+        freed.go(3);
+        freed.wed(1, 3, 2);
+        freed.death(2, 3);
+        Check.due("the brother's", freed.last(1, 2), 6);
         MourningHouse frees = fatherAnd(2, "for father: grey 9 days\nfor brother: black 1 days, lilac 4 days; wait; firm\n"
             + "wedding ends colours", 2);
         frees.person(MAN, -1, -1, -9000);
@@ -320,6 +335,11 @@ public final class MourningTest {
         deeper.death(0, 0);
         deeper.person(MAN, -1, 1, 0);
         depths(deeper, 1, 0, 0, 1);
+        MourningHouse short1 = fatherAnd(2, "for father: black 40 days\nheir 1 days to lilac", 1);
+        short1.death(0, 0);
+        short1.go(3);
+        short1.person(MAN, -1, 1, 2);
+        depths(short1, 1, 3, 1, 3, 2, 1, 3, 3);
         MourningHouse firm = fatherAnd(2, "for father: black 40 days; firm\nheir 5 days to lilac", 1);
         firm.death(0, 0);
         firm.person(MAN, -1, 1, 0);

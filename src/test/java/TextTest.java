@@ -12,6 +12,7 @@ public final class TextTest {
         notLighter();
         twice();
         tooMany();
+        nothingLeft();
         lines();
         goodLines();
         written();
@@ -23,6 +24,9 @@ public final class TextTest {
         MourningHouse h = new MourningHouse();
         for (int what = 0; what <= 14; what++) {
             Check.due("count(" + what + ")", h.count(what), 0);
+        }
+        for (int what = 0; what < 3; what++) {
+            Check.due("fault(" + what + ")", h.fault(what), 0);
         }
         Check.due("NONE", MourningHouse.NONE, -1);
         Check.due("person there", h.told(0, 0), Check.NO_ANSWER);
@@ -262,6 +266,24 @@ public final class TextTest {
         fault(feasts + "feast 99", 9, 1, 6);
         fault(feasts + "# feast\nfeast 1.1 to grey", 10, 1, 6);
         good(("may call from grey\nheir 3 days to grey\nunder 3 to grey\nwedding ends grey\n").repeat(12), 0);
+    }
+
+    /** A text with a fault leaves nothing in the law of the next one. */
+    private static void nothingLeft() {
+        MourningHouse h = new MourningHouse();
+        String all = "for son: grey 1 days\nwedding ends crape\nmay call from crape\nfeast 1.2 to colours\n"
+            + "heir 400 days to colours\nunder 30 to colours\n";
+        Check.due("take", Check.take(h, all + "x"), -1);
+        Check.due("take", Check.take(h, "for father: black 9 days"), 1);
+        h.person(10, -1, -1, -9000);
+        h.person(0, 0, -1, 0);
+        h.person(10, -1, 1, 0);
+        h.death(0, 0);
+        h.wed(1, 2, 0);
+        Check.due("depth", h.depth(1, 0, 0), 3);
+        Check.due("depth", h.depth(1, 1, 0), 3);
+        Check.no("may", h.may(1, 0, 0, 0));
+        Check.due("rules", h.write(0, 1), -1);
     }
 
     private static void lines() {
