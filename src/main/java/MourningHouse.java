@@ -130,11 +130,12 @@ public final class MourningHouse {
     }
 
     public int go(int n) {
-        if (n < 0 || n > LONGEST_GO || !Calendar.has(now + n)) {
+        if (n < 0 || n > LONGEST_GO) {
             return NONE;
         }
-        wardrobe.work(n);
-        now += n;
+        int later = Math.min(now + n, Calendar.LAST);
+        wardrobe.work(later - now);
+        now = later;
         return now;
     }
 

@@ -9,6 +9,7 @@ public final class CalendarTest {
         noSuchDates();
         months();
         going();
+        workingToTheLast();
         Check.done();
     }
 
@@ -77,10 +78,34 @@ public final class CalendarTest {
         for (int i = 2; i <= 36; i++) {
             Check.due("go(2000)", h.go(2000), i * 2000);
         }
-        Check.due("go beyond", h.go(1048), -1);
-        Check.due("now", h.count(0), 72000);
-        Check.due("go to the last", h.go(1047), 73047);
-        Check.due("go(1)", h.go(1), -1);
+        Check.due("go nearly to the last", h.go(1046), 73046);
+        Check.due("go(2001)", h.go(2001), -1);
+        Check.due("now", h.count(0), 73046);
+        Check.due("go to the last", h.go(1), 73047);
+        Check.due("go(1)", h.go(1), 73047);
+        Check.due("go(2000)", h.go(2000), 73047);
+        Check.due("go(2001)", h.go(2001), -1);
+        Check.due("go(-1)", h.go(-1), -1);
         Check.due("go(0)", h.go(0), 73047);
+        Check.due("now", h.count(0), 73047);
+    }
+
+    /** Only the days that there are end: a task of two days is done by two of them, not by one. */
+    private static void workingToTheLast() {
+        for (int left = 1; left <= 3; left++) {
+            MourningHouse h = new MourningHouse();
+            Check.yes("hands", h.hands(1));
+            Check.due("dress", h.dress(0, 1), 0);
+            for (int i = 1; i <= 36; i++) {
+                h.go(2000);
+            }
+            Check.due("go", h.go(1047 - left), 73047 - left);
+            Check.due("dye", h.dye(0, 4), 1);
+            Check.due("go(2000)", h.go(2000), 73047);
+            Check.due("tasks, " + left + " days", h.count(7), left < 2 ? 1 : 0);
+            Check.due("stuff, " + left + " days", h.worn(0, 1), left < 2 ? 1 : 4);
+            Check.due("go(2000)", h.go(2000), 73047);
+            Check.due("tasks then", h.count(7), left < 2 ? 1 : 0);
+        }
     }
 }

@@ -13,6 +13,7 @@ public final class ModelTest {
     private static final String[] ACTS = {"call", "dine", "dance", "wed"};
     private static final String[] OPTIONS = {"men half", "wait", "firm", "news"};
     private static final int MOST_CALLS = 512;
+    private static final int LATE = 72900;
 
     private final Random random;
     private final MourningHouse house = new MourningHouse();
@@ -79,6 +80,10 @@ public final class ModelTest {
     }
 
     private void go() {
+        // Some runs are those of the last days.
+        while (seed / 4 % 8 == 7 && now() < LATE) {
+            go(Math.min(2000, LATE + n(100) - now()));
+        }
         feedText(theme == 1 ? text(true) : text(false));
         take();
         for (int i = 2 + n(12); i >= 0 && theme != 1; i--) {

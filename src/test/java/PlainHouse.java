@@ -860,10 +860,10 @@ final class PlainHouse {
     }
 
     int go(int n) {
-        if (n < 0 || n > 2000 || now + n > LAST) {
+        if (n < 0 || n > 2000) {
             return NONE;
         }
-        for (int i = 0; i < n; i++) {
+        for (int i = 0; i < n && now < LAST; i++) {
             now++;
             for (int t = 0; t < hands && t < tasks.size(); t++) {
                 tasks.get(t).left--;
