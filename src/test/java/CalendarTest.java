@@ -14,8 +14,10 @@ public final class CalendarTest {
     }
 
     private static void everyDay() {
-        MourningHouse h = new MourningHouse();
+        MourningHouse h = null;
         for (int day = -36524; day <= 73047; day++) {
+            // An object is used for 512 calls at most.
+            h = h == null || day % 250 == 0 ? new MourningHouse() : h;
             LocalDate d = ZERO.plusDays(day);
             int date = d.getYear() * 10000 + d.getMonthValue() * 100 + d.getDayOfMonth();
             Check.due("date(" + day + ")", h.date(day), date);
@@ -58,6 +60,7 @@ public final class CalendarTest {
         Check.due("no such day", h.months(73048, 0), Check.NO_ANSWER);
         Check.due("last day", h.months(73047, 0), 73047);
         for (int day = -36524; day < 73000; day += 97) {
+            h = new MourningHouse();
             for (int m = 1; m < 500; m += 7) {
                 LocalDate later = ZERO.plusDays(day).plusMonths(m);
                 int want = later.getYear() > 1999 ? Check.NO_ANSWER : (int) (later.toEpochDay() - ZERO.toEpochDay());

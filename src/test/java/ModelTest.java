@@ -58,7 +58,8 @@ public final class ModelTest {
     private void due(String call, long got, long want) {
         log.add(call + " = " + got);
         calls++;
-        if (got != want && !wrong) {
+        // Behind its 512th call an object may answer anything.
+        if (got != want && !wrong && calls <= MOST_CALLS) {
             wrong = true;
             System.out.println("seed " + seed + ": " + call + " answered " + got + ", the plain model " + want);
             for (String line : log) {
