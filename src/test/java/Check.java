@@ -1,10 +1,35 @@
 /** What the tests share: telling what is due, and feeding texts. */
 final class Check {
     static final int NO_ANSWER = Integer.MIN_VALUE;
+    private static final int LONGEST_SECONDS = 300;
     private static int wrong = 0;
     private static int made = 0;
+    private static boolean watched = false;
+
+    static {
+        watch();
+    }
 
     private Check() {
+    }
+
+    /** A call that fails to end fails the test, too. */
+    static synchronized void watch() {
+        if (watched) {
+            return;
+        }
+        watched = true;
+        Thread watch = new Thread(() -> {
+            try {
+                Thread.sleep(LONGEST_SECONDS * 1000L);
+            } catch (InterruptedException e) {
+                return;
+            }
+            System.out.println("not ended within " + LONGEST_SECONDS + " seconds");
+            Runtime.getRuntime().halt(1);
+        });
+        watch.setDaemon(true);
+        watch.start();
     }
 
     static void due(String call, long got, long want) {

@@ -17,6 +17,7 @@ public final class DaysEdgesTest {
         nowAtTheLastDay();
         daysThatEndOnTheWay();
         knownFromNowOn();
+        theLastCall();
         Check.done();
     }
 
@@ -259,5 +260,20 @@ public final class DaysEdgesTest {
         h.go(1);
         Check.due("a law", h.depth(1, 40, 39), 4);
         Check.due("a law", h.depth(1, 40, 40), 0);
+    }
+
+    /** "An object is used for at most 512 calls after it has been made": the 512th is as good as the first. */
+    private static void theLastCall() {
+        MourningHouse h = new MourningHouse();
+        for (int call = 1; call <= 512; call++) {
+            Check.due("call " + call, h.go(1), call);
+        }
+        MourningHouse other = Check.under("for father: black 9 days", 1);
+        other.person(10, -1, -1, -9000);
+        other.person(0, 0, -1, -5000);
+        other.death(0, 0);
+        for (int call = 0; call < 500; call++) {
+            Check.due("depth", other.depth(1, call % 10, 0), call % 10 < 9 ? 3 : 0);
+        }
     }
 }

@@ -35,6 +35,7 @@ public final class ModelTest {
     }
 
     public static void main(String[] args) {
+        Check.watch();
         long first = args.length > 0 ? Long.parseLong(args[0]) : 1;
         int runs = args.length > 1 ? Integer.parseInt(args[1]) : 300;
         int bad = 0;

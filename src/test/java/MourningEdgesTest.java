@@ -391,6 +391,13 @@ public final class MourningEdgesTest {
                 Check.due("the day behind", h.depth(1, 5, 4), depth <= ends ? 0 : depth);
             }
         }
+        for (int depth = 1; depth <= 4; depth++) {
+            MourningHouse h = father(1, "for father: " + stuffs[depth] + " 9 days\nmay wed from crape", 1);
+            h.person(MAN, -1, -1, -9000);
+            h.death(0, 0);
+            h.wed(2, 1, 0);
+            Check.due("last of " + stuffs[depth] + ", if it isn't told", h.last(1, 0), 8);
+        }
         // Its depth is that of the part in which it is on that day.
         for (int wedding = 1; wedding <= 5; wedding++) {
             MourningHouse h = father(1, "for father: black 3 days, grey 3 days\nwedding ends grey", 1);
@@ -623,11 +630,13 @@ public final class MourningEdgesTest {
         // At most, not at least; and firm ones, too.
         String[] stuffs = {"colours", "lilac", "grey", "black", "crape"};
         for (int s = 0; s <= 4; s++) {
-            MourningHouse young = father(1, "for father: grey 9 days; firm\nunder 30 to " + stuffs[s], 1);
-            young.death(0, 0);
-            Check.due("grey under 30 to " + stuffs[s], young.depth(1, 0, 0), Math.min(2, s));
-            Check.due("none under 30 to " + stuffs[s], young.depth(1, 9, 0), 0);
-            Check.due("it goes on all the same", young.last(1, 0), 8);
+            for (int depth = 1; depth <= 4; depth++) {
+                MourningHouse young = father(1, "for father: " + stuffs[depth] + " 9 days; firm\nunder 30 to " + stuffs[s], 1);
+                young.death(0, 0);
+                Check.due(stuffs[depth] + " under 30 to " + stuffs[s], young.depth(1, 0, 0), Math.min(depth, s));
+                Check.due("none under 30 to " + stuffs[s], young.depth(1, 9, 0), 0);
+                Check.due("it goes on all the same", young.last(1, 0), 8);
+            }
         }
     }
 

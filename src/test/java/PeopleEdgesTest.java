@@ -554,6 +554,12 @@ public final class PeopleEdgesTest {
         h.person(4, 3, 4, -10);
         Check.due("another father", h.told(5, 2), 3);
         Check.due("another mother", h.told(5, 3), 4);
+        h.person(0, 3, -1, -10);
+        h.person(0, -1, 4, -10);
+        Check.due("a father alone", h.told(6, 2), 3);
+        Check.due("its mother isn't told", h.told(6, 3), Check.NO_ANSWER);
+        Check.due("its father isn't told", h.told(7, 2), Check.NO_ANSWER);
+        Check.due("a mother alone", h.told(7, 3), 4);
         Check.due("a man", h.told(0, 0), 1);
         Check.due("the greatest size", h.told(0, 1), 4);
         Check.due("another's death", h.told(0, 5), Check.NO_ANSWER);
